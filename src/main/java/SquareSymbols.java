@@ -13,6 +13,8 @@ public final class SquareSymbols {
     private static final int MOST_BYTES = 3000;
     private static final int MOST_VERSION = 40;
     private static final int MASKS = 8;
+    /** Above every count of bits and every penalty. */
+    private static final int HUGE = 1 << 30;
 
     private static final int DIGIT = 0;
     private static final int SIGN = 1;
@@ -22,8 +24,11 @@ public final class SquareSymbols {
 
     /** No byte has less: the third digit of a group adds three bits. */
     private static final int LEAST_BITS_OF_BYTE = 3;
-    /** The 23648 bits that a symbol holds at most, by the 18 that a segment has at least. */
-    private static final int MOST_SEGMENTS = 1313;
+    /**
+     * The 23648 bits that a symbol holds at most, by the 22 that a segment has at least from
+     * version 27 on; the smaller versions have room for fewer.
+     */
+    private static final int MOST_SEGMENTS = 1074;
 
     private static final int NO_FORM = 1;
     private static final int BLOCK_LOST = 2;
@@ -58,7 +63,7 @@ public final class SquareSymbols {
         division = new Division();
         codewords = new Codewords(field);
         mender = new Mender(field);
-        parser = new Parser();
+        parser = new Parser(codewords);
         symbol = new Grid();
         frame = new Frame();
         judge = new Penalty();
@@ -230,7 +235,7 @@ public final class SquareSymbols {
 
     private void dressBest(int level, int mask) {
         int best = mask;
-        int least = Integer.MAX_VALUE;
+        int least = HUGE;
         for (int k = 0; k < MASKS && mask == NONE; k++) {
             dress(level, k);
             int penalty = judge.of(symbol);
@@ -269,12 +274,12 @@ public final class SquareSymbols {
         if (mended == NONE) {
             return BLOCK_LOST;
         }
-        int fault = parser.parse(codewords, version, null);
+        int fault = parser.parse(version, null);
         if (fault != 0) {
             return fault;
         }
         data.clear();
-        parser.parse(codewords, version, data);
+        parser.parse(version, data);
         found[0] = level;
         found[1] = mask;
         found[2] = mended;
@@ -478,7 +483,7 @@ public final class SquareSymbols {
             int chosen = 0;
             for (int s = 0; s <= NO_RUN; s++) {
                 int best = BYTE;
-                int fewest = Integer.MAX_VALUE;
+                int fewest = HUGE;
                 for (int m = least; m < MODES; m++) {
                     int bits = m == MODE[s] ? NEXT_BITS[s] + bitsBehind[NEXT[s]] : freshBits[m];
                     if (bits < fewest) {
@@ -1223,11 +1228,12 @@ public final class SquareSymbols {
                     none &= ~ahead[i];
                 }
             }
-            long runs = (all | none) & withRoom(symbol, x, y, (RUN_LENGTH - 1) * dx, (RUN_LENGTH - 1) * dy);
-            boolean isFirst = dx == 1 ? x == 0 : y == 0;
-            long first = !isFirst ? 0L : dx == 1 ? 1L : -1L;
-            long begun = runs & (first | symbol.from(x - dx, y - dy) ^ ahead[0]);
-            long room = withRoom(symbol, x, y, (FINDER_LENGTH - 1) * dx, (FINDER_LENGTH - 1) * dy);
+            int run = RUN_LENGTH - 1;
+            long runs = (all | none) & withRoom(symbol, x, y, run * dx, run * dy);
+            long edge = dy == 0 ? (x == 0 ? 1L : 0L) : (y == 0 ? -1L : 0L);
+            long begun = runs & (edge | symbol.from(x - dx, y - dy) ^ ahead[0]);
+            int finder = FINDER_LENGTH - 1;
+            long room = withRoom(symbol, x, y, finder * dx, finder * dy);
             int finders = Long.bitCount(places(LIKE_FINDER) & room)
                     + Long.bitCount(places(LIKE_FINDER_BACK) & room);
             // A run of n has n - 4 places with five alike ahead, and counts n - 2.
@@ -1264,27 +1270,29 @@ public final class SquareSymbols {
 
     /** Reads the segments of the bytes of the blocks. */
     private static final class Parser {
-        private Codewords words;
+        private final Codewords words;
         private Data target;
         private int version;
         private int next;
         private int size;
         private int segments;
 
+        Parser(Codewords words) {
+            this.words = words;
+        }
+
         int segments() {
             return segments;
         }
 
         /** Answers the fault; what is read comes behind the target, unless that is null. */
-        int parse(Codewords source, int ofVersion, Data into) {
-            words = source;
+        int parse(int ofVersion, Data into) {
             version = ofVersion;
             target = into;
             next = 0;
             size = 0;
-            segments = 0;
-            int all = 8 * source.holds();
-            while (next + 4 <= all) {
+            int all = 8 * words.holds();
+            for (segments = 0; segments < all && next + 4 <= all; segments++) {
                 int sign = take(4);
                 if (sign == 0) {
                     return 0;
@@ -1296,7 +1304,6 @@ public final class SquareSymbols {
                 if (fault != 0) {
                     return fault;
                 }
-                segments++;
             }
             return 0;
         }
