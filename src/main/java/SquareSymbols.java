@@ -444,8 +444,8 @@ public final class SquareSymbols {
     /** Divides the data into the segments with the fewest bits. */
     private static final class Division {
         /**
-         * A run of segments so far is told by its state, all that its further bits hang on:
-         * digits with 1, 2 or 3 in the last group, signs with 1 or 2, bytes; and no run at all.
+         * The states of the segment so far, all that the bits of further bytes hang on: digits
+         * with 1, 2 or 3 in the last group, signs with 1 or 2, bytes; and no segment yet.
          */
         private static final int NO_RUN = 6;
         private static final int[] MODE = {DIGIT, DIGIT, DIGIT, SIGN, SIGN, BYTE, NONE};
