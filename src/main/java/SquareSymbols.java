@@ -929,8 +929,10 @@ public final class SquareSymbols {
         }
 
         void set(int x, int y, boolean dark) {
-            if (isInside(x, y) && isDark(x, y) != dark) {
-                words[WORDS * y + (x >> 6)] ^= 1L << (x & 63);
+            if (isInside(x, y)) {
+                int at = WORDS * y + (x >> 6);
+                long module = 1L << (x & 63);
+                words[at] = dark ? words[at] | module : words[at] & ~module;
             }
         }
 
