@@ -1,19 +1,78 @@
+import java.io.IOException;
+import java.nio.file.Files;
+import java.nio.file.Path;
+
 /** Counts the answers that are not as due; a test ends with it. */
 final class Due {
     interface Call {
         long answer();
     }
 
+    /** Where a checkout has the document; without it the quotes alone are not looked at. */
+    private static final Path DOCUMENT = Path.of("..", "shared", "DOC.md");
+
+    private static String document = null;
+    private static String sentence = "";
+    private static int sentences = 0;
+    private static int lookedBefore = 0;
     private static int wrong = 0;
     private static int looked = 0;
 
     private Due() {
     }
 
+    /** What is looked at from here on holds this sentence, which stands so in the document. */
+    static void sentence(String quote) {
+        endSentence();
+        sentence = quote;
+        sentences++;
+        lookedBefore = looked;
+        if (!documentText().isEmpty() && !documentText().contains(quote)) {
+            tell("the document has no such sentence");
+        }
+    }
+
+    /** What is looked at from here on is of no one sentence. */
+    static void noSentence() {
+        endSentence();
+        sentence = "";
+    }
+
+    private static void endSentence() {
+        if (!sentence.isEmpty() && looked == lookedBefore) {
+            tell("nothing was looked at");
+        }
+    }
+
+    private static String documentText() {
+        if (document == null) {
+            try {
+                document = Files.exists(DOCUMENT) ? Files.readString(DOCUMENT).replaceAll("\\s+", " ") : "";
+            } catch (IOException e) {
+                document = "";
+            }
+        }
+        return document;
+    }
+
     static void is(String what, long want, long got) {
         looked++;
         if (got != want) {
             tell(what + " answered " + got + ", due is " + want);
+        }
+    }
+
+    static void isText(String what, String want, String got) {
+        looked++;
+        if (!want.equals(got)) {
+            tell(what + ": " + got + ", due is " + want);
+        }
+    }
+
+    static void isSo(String what, boolean holds) {
+        looked++;
+        if (!holds) {
+            tell(what + ": it is not so");
         }
     }
 
@@ -31,12 +90,16 @@ final class Due {
     private static void tell(String text) {
         wrong++;
         if (wrong <= 40) {
-            System.out.println(text);
+            System.out.println((sentence.isEmpty() ? "" : "\"" + sentence + "\" ") + text);
         }
     }
 
     static void end() {
-        System.out.println(wrong == 0 ? looked + " answers are as due" : wrong + " of " + looked + " answers are not as due");
+        noSentence();
+        String quoted = sentences == 0 ? "" : ", of " + sentences + " sentences";
+        System.out.println(wrong == 0
+            ? looked + " answers are as due" + quoted
+            : wrong + " of " + looked + " answers are not as due");
         if (wrong != 0) {
             System.exit(1);
         }

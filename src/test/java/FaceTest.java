@@ -18,13 +18,6 @@ public final class FaceTest {
         Due.end();
     }
 
-    static void isText(String what, String due, String got) {
-        if (!due.equals(got)) {
-            System.out.println(what + ": " + got + ", due is " + due);
-        }
-        Due.is(what, 1, due.equals(got) ? 1 : 0);
-    }
-
     static void face() {
         Class<?> c = SquareSymbols.class;
         Due.is("public and final", Modifier.PUBLIC | Modifier.FINAL, c.getModifiers());
@@ -41,7 +34,7 @@ public final class FaceTest {
                 got.add(told(m));
             }
         }
-        isText("methods", due.toString(), got.toString());
+        Due.isText("methods", due.toString(), got.toString());
         for (Method m : c.getDeclaredMethods()) {
             if (Modifier.isPrivate(m.getModifiers())) {
                 Due.is("private " + m.getName(), 0, publicNames.contains(m.getName()) ? 1 : 0);
@@ -58,7 +51,7 @@ public final class FaceTest {
                 fields.append(f).append(';');
             }
         }
-        isText("fields", "public static final int SquareSymbols.NONE;", fields.toString());
+        Due.isText("fields", "public static final int SquareSymbols.NONE;", fields.toString());
     }
 
     static String told(Method m) {
@@ -99,7 +92,7 @@ public final class FaceTest {
         for (String word : ruledOut) Due.is("has " + word, -1, text.indexOf(word));
         String[] lines = text.split("\n");
         for (String line : lines) {
-            if (line.startsWith("import")) isText("import", "import java.util.Arrays;", line);
+            if (line.startsWith("import")) Due.isText("import", "import java.util.Arrays;", line);
             if (line.contains("throw new")) Due.is(line, 1, line.contains("throw new IllegalArgumentException(\"") ? 1 : 0);
         }
         for (int i = 0; i < text.length(); i++) {
