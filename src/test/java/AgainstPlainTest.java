@@ -7,14 +7,10 @@ public final class AgainstPlainTest {
     private static final String[] ALPHABETS = {"0123456789", PlainSymbols.SIGNS, "abcdefxyz\u00ff\u0000\u0080"};
 
     public static void main(String[] args) {
-        divisionsOfAllShortData();
-        divisionsOfMixedData();
-        everyVersionAndLevel();
-        everyMask();
-        spoiledSymbols();
-        randomBits();
-        randomCalls();
-        Due.end();
+        Due.all(
+            AgainstPlainTest::divisionsOfAllShortData, AgainstPlainTest::divisionsOfMixedData,
+            AgainstPlainTest::everyVersionAndLevel, AgainstPlainTest::everyMask, AgainstPlainTest::spoiledSymbols,
+            AgainstPlainTest::randomBits, AgainstPlainTest::randomCalls);
     }
 
     static int mixedByte(Random random, int kind) {

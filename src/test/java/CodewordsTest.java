@@ -23,18 +23,11 @@ public final class CodewordsTest {
     };
 
     public static void main(String[] args) {
-        sides();
-        codewordsInAll();
-        holds();
-        fits();
-        told();
-        fourBits();
-        wholeByte();
-        pads();
-        blocks();
-        checkBytes();
-        order();
-        Due.end();
+        Due.all(
+            CodewordsTest::sides, CodewordsTest::codewordsInAll, CodewordsTest::blocksAndChecks,
+            CodewordsTest::holds, CodewordsTest::fits, CodewordsTest::told, CodewordsTest::fourBits,
+            CodewordsTest::wholeByte, CodewordsTest::pads, CodewordsTest::blocks, CodewordsTest::checkBytes,
+            CodewordsTest::order);
     }
 
     /** Bytes of mode 2 that are not alike. */
@@ -75,6 +68,35 @@ public final class CodewordsTest {
                 Due.is(room + 1 + " bytes at level " + level, NONE, s.make(level, v, 0));
             }
         }
+    }
+
+    static void blocksAndChecks() {
+        // The document's numbers stand in PlainSymbols; quoted from there they must be those of the document.
+        Due.sentence("At a LEVEL 0 .. 3 it has B blocks with C check bytes each (from version 1 on): ```text C, "
+            + levels(PlainSymbols.CHECKS) + " B, " + levels(PlainSymbols.BLOCKS));
+        for (int v = 1; v <= 40; v++) {
+            for (int level = 0; level < 4; level++) {
+                SquareSymbols s = randomBytes(90 + v, BYTES[level][v - 1]);
+                s.make(level, v, 7);
+                int[][] blocks = Made.blocks(s);
+                Due.is("version " + v + " level " + level, PlainSymbols.BLOCKS[level][v - 1], blocks.length);
+                for (int[] block : blocks) {
+                    int checks = PlainSymbols.CHECKS[level][v - 1];
+                    int[] due = PlainSymbols.withChecks(Arrays.copyOf(block, block.length - checks), checks);
+                    Due.isText("version " + v + " level " + level, Arrays.toString(due), Arrays.toString(block));
+                }
+            }
+        }
+    }
+
+    private static String levels(int[][] numbers) {
+        StringBuilder out = new StringBuilder();
+        for (int level = 0; level < 4; level++) {
+            out.append(level == 0 ? "" : " ").append("level ").append(level).append(':');
+            for (int n : numbers[level]) out.append(' ').append(n);
+            out.append(level == 3 ? '.' : ';');
+        }
+        return out.toString();
     }
 
     static void holds() {
@@ -243,7 +265,7 @@ public final class CodewordsTest {
     }
 
     static void checkBytes() {
-        Due.sentence("block and check bytes together have the value 0 at 2 to the 0, 1, .., C - 1.");
+        Due.sentence("over the field of 256 elements with x^8 + x^4 + x^3 + x^2 + 1: block and check bytes together have the value 0 at 2 to the 0, 1, .., C - 1.");
         for (int v = 1; v <= 40; v++) {
             for (int level = 0; level < 4; level++) {
                 SquareSymbols s = randomBytes(50 + v, BYTES[level][v - 1]);

@@ -5,17 +5,9 @@ public final class DataTest {
     private static final int MOST = Integer.MAX_VALUE;
 
     public static void main(String[] args) {
-        newObject();
-        upTo3000();
-        put();
-        putTooMany();
-        putRefused();
-        repeat();
-        repeatTooMany();
-        repeatRefused();
-        wipe();
-        at();
-        Due.end();
+        Due.all(
+            DataTest::newObject, DataTest::upTo3000, DataTest::put, DataTest::putTooMany, DataTest::putRefused,
+            DataTest::repeat, DataTest::repeatTooMany, DataTest::repeatRefused, DataTest::wipe, DataTest::at);
     }
 
     static SquareSymbols with(int size) {

@@ -1,6 +1,8 @@
 import java.io.IOException;
 import java.nio.file.Files;
 import java.nio.file.Path;
+import java.util.LinkedHashSet;
+import java.util.Set;
 
 /** Counts the answers that are not as due; a test ends with it. */
 final class Due {
@@ -14,6 +16,7 @@ final class Due {
     private static String document = null;
     private static String sentence = "";
     private static int sentences = 0;
+    private static final Set<String> BROKEN = new LinkedHashSet<>();
     private static int lookedBefore = 0;
     private static int wrong = 0;
     private static int looked = 0;
@@ -55,6 +58,19 @@ final class Due {
         return document;
     }
 
+    /** Runs all of them, one that throws too, and ends the test. */
+    static void all(Runnable... tests) {
+        for (Runnable test : tests) {
+            noSentence();
+            try {
+                test.run();
+            } catch (RuntimeException e) {
+                tell("threw " + e + " at " + (e.getStackTrace().length == 0 ? "?" : e.getStackTrace()[0]));
+            }
+        }
+        end();
+    }
+
     static void is(String what, long want, long got) {
         looked++;
         if (got != want) {
@@ -89,6 +105,9 @@ final class Due {
 
     private static void tell(String text) {
         wrong++;
+        if (!sentence.isEmpty()) {
+            BROKEN.add(sentence);
+        }
         if (wrong <= 40) {
             System.out.println((sentence.isEmpty() ? "" : "\"" + sentence + "\" ") + text);
         }
@@ -100,6 +119,9 @@ final class Due {
         System.out.println(wrong == 0
             ? looked + " answers are as due" + quoted
             : wrong + " of " + looked + " answers are not as due");
+        for (String broken : BROKEN) {
+            System.out.println("it does not hold: " + broken);
+        }
         if (wrong != 0) {
             System.exit(1);
         }

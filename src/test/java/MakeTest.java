@@ -7,19 +7,10 @@ public final class MakeTest {
     private static final int MOST = Integer.MAX_VALUE;
 
     public static void main(String[] args) {
-        levelsAndVersions();
-        leastVersion();
-        leastPenalty();
-        givenMask();
-        doesNotFit();
-        makeRefused();
-        told();
-        toldOfNone();
-        toldRefused();
-        segment();
-        noSuchSegment();
-        segmentRefused();
-        Due.end();
+        Due.all(
+            MakeTest::levelsAndVersions, MakeTest::leastVersion, MakeTest::leastPenalty, MakeTest::givenMask,
+            MakeTest::doesNotFit, MakeTest::makeRefused, MakeTest::told, MakeTest::toldOfNone,
+            MakeTest::toldRefused, MakeTest::segment, MakeTest::noSuchSegment, MakeTest::segmentRefused);
     }
 
     static void levelsAndVersions() {

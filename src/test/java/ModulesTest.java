@@ -9,13 +9,27 @@ public final class ModulesTest {
     private static final int[] FAR = {-64, -65, -128, -1000, LEAST, LEAST + 1, LEAST + 63, 177, 178, 191, 192, 1000, MOST, MOST - 1, MOST - 62, MOST - 63};
 
     public static void main(String[] args) {
-        blank();
-        blankRefused();
-        row();
-        noneInRow();
-        spoil();
-        spoiledOnlyInside();
-        Due.end();
+        Due.all(
+            ModulesTest::places, ModulesTest::blank, ModulesTest::blankRefused, ModulesTest::row,
+            ModulesTest::noneInRow, ModulesTest::spoil, ModulesTest::spoiledOnlyInside);
+    }
+
+    static void places() {
+        Due.sentence("MODULES: x from the left, y from above, from 0 on; dark is 1.");
+        SquareSymbols s = new SquareSymbols();
+        s.blank(2);
+        s.spoil(3, 5, 1L);
+        for (int y = 0; y < 25; y++) {
+            for (int x = 0; x < 25; x++) Due.is("module " + x + ", " + y, x == 3 && y == 5 ? 1 : 0, Made.module(s, x, y));
+        }
+        // Of what is made, the corner without a finder is on the right, below.
+        s.make(0, 2, 0);
+        Due.is("corner above, left", 127, s.row(0, 0) & 255);
+        Due.is("corner above, right", 254, s.row(17, 0));
+        Due.is("corner below, left", 127, s.row(0, 24) & 255);
+        Due.is("the last alignment", 31, s.row(16, 16) & 31);
+        Due.is("the dark module", 1, s.row(8, 17) & 1);
+        Due.is("the light one across", 0, s.row(17, 7) & 255);
     }
 
     static void blank() {

@@ -1,4 +1,5 @@
 import java.util.ArrayList;
+import java.util.Arrays;
 import java.util.List;
 
 /**
@@ -21,6 +22,11 @@ final class PlainSymbols {
         numbers("1 1 2 2 4 4 6 6 8 8 8 10 12 16 12 17 16 18 21 20 23 23 25 27 29 34 34 35 38 40 43 45 48 51 53 56 59 62 65 68"),
         numbers("1 1 2 4 4 4 5 6 8 8 11 11 16 16 18 16 19 21 25 25 25 34 30 32 35 37 40 42 45 48 51 54 57 60 63 66 70 74 77 81"),
     };
+
+    /** What is the same for each symbol of a version is found once. */
+    private static final int[][][] FIXED = new int[41][][];
+    private static final int[][][] WAYS = new int[41][][];
+    private static final int[][] DIVISORS = new int[31][];
 
     List<Integer> data = new ArrayList<>();
     int[][] modules;
@@ -338,6 +344,19 @@ final class PlainSymbols {
 
     /** The block with its check bytes behind it: the rest of a long division. */
     static int[] withChecks(int[] block, int checks) {
+        if (DIVISORS[checks] == null) DIVISORS[checks] = newDivisor(checks);
+        int[] divisor = DIVISORS[checks];
+        int[] rest = Arrays.copyOf(block, block.length + checks);
+        for (int i = 0; i < block.length; i++) {
+            int factor = rest[i];
+            for (int j = 0; j < divisor.length; j++) rest[i + j] ^= times(divisor[j], factor);
+        }
+        System.arraycopy(block, 0, rest, 0, block.length);
+        return rest;
+    }
+
+    /** The product of x - 2 to the i, for i from 0 on. */
+    private static int[] newDivisor(int checks) {
         int[] divisor = {1};
         for (int i = 0; i < checks; i++) {
             int[] product = new int[divisor.length + 1];
@@ -347,13 +366,7 @@ final class PlainSymbols {
             }
             divisor = product;
         }
-        int[] rest = java.util.Arrays.copyOf(block, block.length + checks);
-        for (int i = 0; i < block.length; i++) {
-            int factor = rest[i];
-            for (int j = 0; j < divisor.length; j++) rest[i + j] ^= times(divisor[j], factor);
-        }
-        System.arraycopy(block, 0, rest, 0, block.length);
-        return rest;
+        return divisor;
     }
 
     /** Bytes of a text of segments, filled up to what the version holds. */
@@ -394,7 +407,7 @@ final class PlainSymbols {
         int[][] blocks = new int[lengths.length][];
         int at = 0;
         for (int b = 0; b < lengths.length; b++) {
-            blocks[b] = withChecks(java.util.Arrays.copyOfRange(bytes, at, at + lengths[b]), CHECKS[level][v - 1]);
+            blocks[b] = withChecks(Arrays.copyOfRange(bytes, at, at + lengths[b]), CHECKS[level][v - 1]);
             at += lengths[b];
         }
         List<int[]> order = order(level, v);
@@ -407,9 +420,14 @@ final class PlainSymbols {
 
     /** The fixed modules: 0 light, 1 dark, 2 of the form, -1 none. */
     static int[][] fixed(int v) {
+        if (FIXED[v] == null) FIXED[v] = newFixed(v);
+        return FIXED[v];
+    }
+
+    private static int[][] newFixed(int v) {
         int s = 17 + 4 * v;
         int[][] out = new int[s][s];
-        for (int[] line : out) java.util.Arrays.fill(line, -1);
+        for (int[] line : out) Arrays.fill(line, -1);
         int[][] finders = {{3, 3}, {s - 4, 3}, {3, s - 4}};
         int n = v / 7 + 2;
         int step = v == 32 ? 26 : 2 * ((4 * v + 2 * n + 1) / (2 * n - 2));
@@ -484,6 +502,12 @@ final class PlainSymbols {
 
     /** The modules that are not fixed, as {x, y}, in the order of the codewords' bits. */
     static List<int[]> way(int[][] fixed) {
+        int v = (fixed.length - 17) / 4;
+        if (WAYS[v] == null) WAYS[v] = newWay(fixed).toArray(new int[0][]);
+        return Arrays.asList(WAYS[v]);
+    }
+
+    private static List<int[]> newWay(int[][] fixed) {
         List<Integer> columns = new ArrayList<>();
         int s = fixed.length;
         for (int x = s - 1; x >= 0; x--) if (x != 6) columns.add(x);

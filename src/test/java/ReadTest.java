@@ -9,30 +9,12 @@ public final class ReadTest {
     private static final int MOST = Integer.MAX_VALUE;
 
     public static void main(String[] args) {
-        versionOfSide();
-        form();
-        secondForm();
-        formThatIsAnothers();
-        blocksPutRight();
-        lessPutRight();
-        anotherCodeword();
-        endOfSegments();
-        widths();
-        segmentsOfNone();
-        firstFault();
-        noForm();
-        blockLost();
-        noMode();
-        bitsEnd();
-        noNumber();
-        tooMany();
-        read();
-        readNone();
-        fault();
-        reading();
-        readingNone();
-        readingRefused();
-        Due.end();
+        Due.all(
+            ReadTest::versionOfSide, ReadTest::form, ReadTest::secondForm, ReadTest::formThatIsAnothers,
+            ReadTest::blocksPutRight, ReadTest::lessPutRight, ReadTest::anotherCodeword, ReadTest::endOfSegments,
+            ReadTest::widths, ReadTest::segmentsOfNone, ReadTest::firstFault, ReadTest::noForm, ReadTest::blockLost,
+            ReadTest::noMode, ReadTest::bitsEnd, ReadTest::noNumber, ReadTest::tooMany, ReadTest::read,
+            ReadTest::readNone, ReadTest::fault, ReadTest::reading, ReadTest::readingNone, ReadTest::readingRefused);
     }
 
     // ---- symbols that no make() would make ----
@@ -218,11 +200,11 @@ public final class ReadTest {
             turnForm(s, 21, 0, SymbolTest.FORMS[form] ^ SymbolTest.FORMS[other] ^ 0x1010);
             Due.is("another one's form", NONE, s.read());
             Due.is("its fault", 2, s.fault());
-            // Read by the second one alone, all is well.
+            // With none there, the second one counts.
             turnForm(s, 21, 0, 0x7fff ^ SymbolTest.FORMS[other] ^ 0x1010);
-            if (formNear(0x7fff) == NONE) Due.is("the second form", 4, s.read());
+            Due.is("the second form", 4, s.read());
         }
-        // A symbol that has one form and is read by the other: both are right for their codewords.
+        // The second one is not looked at when the first one is there.
         SquareSymbols s = written("0100" + text(1, 8) + text('q', 8), 2, 1);
         turnForm(s, 21, 1, 0x2b5c);
         Due.is("the first form alone", 1, s.read());
@@ -231,7 +213,7 @@ public final class ReadTest {
     }
 
     static void blocksPutRight() {
-        Due.sentence("each block becomes the codeword (with its C) from which it differs in no more than (C - r) / 2 places, rounded down,");
+        Due.sentence("The mask is turned back, the codewords are put into their blocks, and each block becomes the codeword (with its C) from which it differs in no more than (C - r) / 2 places, rounded down,");
         for (int v = 1; v <= 40; v++) {
             for (int level = 0; level < 4; level++) {
                 int most = PlainSymbols.mendable(level, v);
@@ -308,12 +290,14 @@ public final class ReadTest {
     }
 
     static void endOfSegments() {
-        Due.sentence("four bits, up to 0000, or up to where less than four are left;");
+        Due.sentence("Of the bytes of the blocks the segments are read: four bits, up to 0000, or up to where less than four are left;");
         isRead("the end at once", "0000", 0, 1, "", 0);
         isRead("the end is not looked behind", "0000" + "1111", 0, 1, "", 0);
         isRead("the end behind a segment", "0001" + text(1, 10) + text(8, 4) + "0000" + "0011", 0, 1, "8", 1);
         for (int v : new int[] {1, 10, 27}) {
             isRead("four bits 0 at the very end", atEnd("0000", v), 0, v, "", segmentsBefore("0000", v));
+            isFault("four other bits at the very end", atEnd("0001", v), 0, v, 4);
+            isFault("four other bits at the very end", atEnd("1000", v), 0, v, 3);
             for (String left : new String[] {"", "0", "1", "00", "01", "11", "000", "001", "010", "100", "111"}) {
                 isRead("left are " + left, atEnd(left, v), 0, v, "", segmentsBefore(left, v));
             }
@@ -658,6 +642,15 @@ public final class ReadTest {
             int[] next = {form / 8, form % 8, 0, 0};
             for (int i = 0; i < 4; i++) Due.is("reading " + i + " of the next one", next[i], s.reading(i));
         }
+        // Of what is read, not of what was made.
+        s.make(0, 1, 2);
+        // Turned by itself it is all light.
+        AgainstPlainTest.show(Made.modules(s), s);
+        AgainstPlainTest.show(PlainSymbols.symbolOf("0001" + text(0, 10) + "0100" + text(0, 8), 3, 1, 5), s);
+        Due.is("made before", 0, s.told(1));
+        s.read();
+        int[] other = {3, 5, 0, 2};
+        for (int i = 0; i < 4; i++) Due.is("reading " + i + " of another one", other[i], s.reading(i));
     }
 
     static void readingNone() {

@@ -18,12 +18,13 @@ public final class RulesTest {
         long call(SquareSymbols s);
     }
 
-    private static final String[] NAMES = {"new", "with data", "full", "made", "made, with other data", "made and spoiled", "blank",
+    private static final String[] NAMES = {"new", "with data", "nearly full", "full", "made", "made, with other data", "made and spoiled", "blank",
         "blank behind made", "read", "read with codewords put right", "read with a fault", "read behind made and blank"};
 
     private static final Past[] PASTS = {
         s -> { },
         s -> Made.add(s, "ab12CD".repeat(10)),
+        s -> s.repeat('f', 2995),
         s -> s.repeat('f', 3000),
         s -> { Made.add(s, "abcdefgh1234567890".repeat(3)); s.make(1, 0, NONE); },
         s -> { Made.add(s, "abcdefgh1234567890"); s.make(1, 4, 3); s.wipe(); s.repeat('f', 3000); },
@@ -37,12 +38,9 @@ public final class RulesTest {
     };
 
     public static void main(String[] args) {
-        firstNamed();
-        throwsBeforeNone();
-        changesNothing();
-        butForRead();
-        calls512();
-        Due.end();
+        Due.all(
+            RulesTest::firstNamed, RulesTest::throwsBeforeNone, RulesTest::changesNothing, RulesTest::butForRead,
+            RulesTest::calls512);
     }
 
     static SquareSymbols lived(int past) {
@@ -65,7 +63,7 @@ public final class RulesTest {
 
     static void throwsBeforeNone() {
         Due.sentence("they throw before they answer NONE;");
-        SquareSymbols full = lived(2);
+        SquareSymbols full = lived(3);
         Due.is("put at 3000", NONE, full.put(8, 0));
         Due.isRefused("put 9 at 3000", () -> full.put(9, 0));
         Due.isRefused("put 0 at 3000", () -> full.put(0, 0));
@@ -85,10 +83,10 @@ public final class RulesTest {
         Due.isRefused("segment's 2 of none such", () -> full.segment(-1, 2));
         Due.is("reading of nothing", NONE, full.reading(3));
         Due.isRefused("reading 4 of nothing", () -> full.reading(4));
-        SquareSymbols made = lived(3);
+        SquareSymbols made = lived(4);
         Due.is("no such segment", NONE, made.segment(6, 0));
         Due.isRefused("no such segment's -1", () -> made.segment(6, -1));
-        SquareSymbols faulty = lived(10);
+        SquareSymbols faulty = lived(11);
         Due.is("reading of a fault", NONE, faulty.reading(0));
         Due.isRefused("reading -1 of a fault", () -> faulty.reading(-1));
     }

@@ -8,19 +8,11 @@ public final class SegmentsTest {
     private static final int[] EDGES = {1, 9, 10, 26, 27, 40};
 
     public static void main(String[] args) {
-        modesOfBytes();
-        numbersOfSigns();
-        runsOfOneMode();
-        modeBits();
-        widths();
-        digits();
-        signs();
-        bytes();
-        highestBitFirst();
-        fewestBits();
-        firstInOrder();
-        noBytes();
-        Due.end();
+        Due.all(
+            SegmentsTest::modesOfBytes, SegmentsTest::numbersOfSigns, SegmentsTest::runsOfOneMode,
+            SegmentsTest::modeBits, SegmentsTest::widths, SegmentsTest::digits, SegmentsTest::signs,
+            SegmentsTest::bytes, SegmentsTest::highestBitFirst, SegmentsTest::fewestBits,
+            SegmentsTest::firstInOrder, SegmentsTest::noBytes);
     }
 
     static String text(int number, int width) {
@@ -38,14 +30,15 @@ public final class SegmentsTest {
         Due.isText("what is read", data, Made.data(s));
     }
 
-    static void isDivided(String data, int version, String due) {
+    static void isDivided(String data, int version, String due, int bits) {
         SquareSymbols s = Made.of(data);
         Due.is("make " + data, version, s.make(0, version, 0));
         Due.isText(data + " in version " + version, due, Made.segments(s));
+        Due.is("bits of " + data + " in version " + version, bits, s.told(5));
     }
 
     static void modesOfBytes() {
-        Due.sentence("A MODE of a byte: 0 DIGIT, it is one of 0 .. 9; 1 SIGN, it is one of the 45 signs");
+        Due.sentence("A MODE of a byte: 0 DIGIT, it is one of 0 .. 9; 1 SIGN, it is one of the 45 signs 0 .. 9 A .. Z blank $ % * + - . / : (their numbers are 0 .. 44 in this order); 2 BYTE, any.");
         for (int b = 0; b < 256; b++) {
             int mode = b >= 48 && b <= 57 ? 0 : SIGNS.indexOf(b) >= 0 ? 1 : 2;
             for (int version : EDGES) {
@@ -103,9 +96,9 @@ public final class SegmentsTest {
             Due.is("bytes in all", text.length(), at);
         }
         // Alike ones come into one segment, as many as they are.
-        isDivided("1".repeat(552), 9, "0:552");
-        isDivided("Z".repeat(1990), 26, "1:1990");
-        isDivided("z".repeat(2953), 40, "2:2953");
+        isDivided("1".repeat(552), 9, "0:552", 1854);
+        isDivided("Z".repeat(1990), 26, "1:1990", 10960);
+        isDivided("z".repeat(2953), 40, "2:2953", 23644);
     }
 
     static void modeBits() {
@@ -126,7 +119,7 @@ public final class SegmentsTest {
     }
 
     static void widths() {
-        Due.sentence("10, 9, 8 for the modes 0, 1, 2 up to version 9; 12, 11, 16 from 10 to 26; 14, 13, 16 from 27 on;");
+        Due.sentence("then how many bytes it has, in as many bits as the version asks for: 10, 9, 8 for the modes 0, 1, 2 up to version 9; 12, 11, 16 from 10 to 26; 14, 13, 16 from 27 on;");
         int[][] due = {{1, 10, 9, 8}, {9, 10, 9, 8}, {10, 12, 11, 16}, {26, 12, 11, 16}, {27, 14, 13, 16}, {40, 14, 13, 16}};
         for (int[] d : due) {
             isWritten("3", d[0], "0001" + text(1, d[1]) + text(3, 4));
@@ -183,51 +176,44 @@ public final class SegmentsTest {
     static void fewestBits() {
         Due.sentence("Of all divisions those with the fewest bits count;");
         // One byte less, and all go into one segment; in each span of versions.
-        isDivided("a12", 9, "2:3");
-        isDivided("a1234", 9, "2:1 0:4");
-        isDivided("a123", 10, "2:4");
-        isDivided("a1234", 26, "2:1 0:4");
-        isDivided("a123", 27, "2:4");
-        isDivided("a12345", 40, "2:1 0:5");
-        isDivided("A123456", 9, "1:7");
-        isDivided("A12345678", 9, "1:1 0:8");
-        isDivided("A1234567", 10, "1:8");
-        isDivided("A12345678", 26, "1:1 0:8");
-        isDivided("A12345678", 27, "1:9");
-        isDivided("A123456789", 40, "1:1 0:9");
-        isDivided("aAAAAA", 9, "2:6");
-        isDivided("aAAAAAA", 9, "2:1 1:6");
-        isDivided("aAAAAA", 10, "2:6");
-        isDivided("aAAAAAAA", 26, "2:1 1:7");
-        isDivided("aAAAAAA", 27, "2:7");
-        isDivided("aAAAAAAAA", 40, "2:1 1:8");
+        isDivided("a12", 9, "2:3", 36);
+        isDivided("a1234", 9, "2:1 0:4", 48);
+        isDivided("a123", 10, "2:4", 52);
+        isDivided("a1234", 26, "2:1 0:4", 58);
+        isDivided("a123", 27, "2:4", 52);
+        isDivided("a12345", 40, "2:1 0:5", 63);
+        isDivided("A123456", 9, "1:7", 52);
+        isDivided("A12345678", 9, "1:1 0:8", 60);
+        isDivided("A1234567", 10, "1:8", 59);
+        isDivided("A12345678", 26, "1:1 0:8", 64);
+        isDivided("A12345678", 27, "1:9", 67);
+        isDivided("A123456789", 40, "1:1 0:9", 71);
+        isDivided("aAAAAA", 9, "2:6", 60);
+        isDivided("aAAAAAA", 9, "2:1 1:6", 66);
+        isDivided("aAAAAA", 10, "2:6", 68);
+        isDivided("aAAAAAAA", 26, "2:1 1:7", 82);
+        isDivided("aAAAAAA", 27, "2:7", 76);
+        isDivided("aAAAAAAAA", 40, "2:1 1:8", 89);
         // In the midst a segment must pay for the one behind it, too.
-        isDivided("a12345b", 9, "2:7");
-        isDivided("a123456b", 9, "2:1 0:6 2:1");
-        isDivided("aAAAAAAAAAAAb", 9, "2:1 1:11 2:1");
+        isDivided("a12345b", 9, "2:7", 68);
+        isDivided("a123456b", 9, "2:1 0:6 2:1", 74);
+        isDivided("aAAAAAAAAAAAb", 9, "2:1 1:11 2:1", 114);
     }
 
     static void firstInOrder() {
         Due.sentence("of these the one whose modes, written byte by byte, are the first in the order of such rows (at the first byte at which two differ the lesser mode comes first).");
         // All of these have as few bits as one segment.
-        isTie("a123", 9, "2:1 0:3", 44);
-        isTie("123a", 9, "0:3 2:1", 44);
-        isTie("a1234", 27, "2:1 0:4", 60);
-        isTie("1234a", 40, "0:4 2:1", 60);
-        isTie("A1234567", 9, "1:1 0:7", 57);
-        isTie("1234567A", 1, "0:7 1:1", 57);
-        isTie("aAAAAAA", 10, "2:1 1:6", 76);
-        isTie("AAAAAAa", 26, "1:6 2:1", 76);
-        isTie("AAAAAAAa", 27, "1:7 2:1", 84);
+        isDivided("a123", 9, "2:1 0:3", 44);
+        isDivided("123a", 9, "0:3 2:1", 44);
+        isDivided("a1234", 27, "2:1 0:4", 60);
+        isDivided("1234a", 40, "0:4 2:1", 60);
+        isDivided("A1234567", 9, "1:1 0:7", 57);
+        isDivided("1234567A", 1, "0:7 1:1", 57);
+        isDivided("aAAAAAA", 10, "2:1 1:6", 76);
+        isDivided("AAAAAAa", 26, "1:6 2:1", 76);
+        isDivided("AAAAAAAa", 27, "1:7 2:1", 84);
         // The first byte that differs decides, whatever comes behind it.
-        isTie("123a1234567", 9, "0:3 2:1 0:7", 82);
-    }
-
-    private static void isTie(String data, int version, String due, int bits) {
-        isDivided(data, version, due);
-        SquareSymbols s = Made.of(data);
-        s.make(0, version, 0);
-        Due.is("bits of " + data, bits, s.told(5));
+        isDivided("123a1234567", 9, "0:3 2:1 0:7", 82);
     }
 
     static void noBytes() {

@@ -30,23 +30,11 @@ public final class SymbolTest {
         0x1f250, 0x209d5, 0x216f0, 0x228ba, 0x2379f, 0x24b0b, 0x2542e, 0x26a64, 0x27541, 0x28c69};
 
     public static void main(String[] args) {
-        finders();
-        timing();
-        alignments();
-        alignmentRings();
-        darkModule();
-        form();
-        formPlaces();
-        versionWord();
-        way();
-        leftOver();
-        maskTurnsNoFixedOnes();
-        masks();
-        runs();
-        squares();
-        likeFinders();
-        share();
-        Due.end();
+        Due.all(
+            SymbolTest::finders, SymbolTest::timing, SymbolTest::alignments, SymbolTest::alignmentRings,
+            SymbolTest::darkModule, SymbolTest::form, SymbolTest::formPlaces, SymbolTest::versionWord,
+            SymbolTest::way, SymbolTest::leftOver, SymbolTest::maskTurnsNoFixedOnes, SymbolTest::masks,
+            SymbolTest::runs, SymbolTest::squares, SymbolTest::likeFinders, SymbolTest::share);
     }
 
     static SquareSymbols made(int version, int level, int mask) {
@@ -218,7 +206,7 @@ public final class SymbolTest {
     }
 
     static void way() {
-        Due.sentence("pairs of columns from the right to the left, S - 1 and S - 2, and so on, column 6 left out (so that the last ones are 5 and 4, 3 and 2, 1 and 0); the first pair upwards, the next one downwards, and so on; in each row the right one first.");
+        Due.sentence("All others have the bits of the codewords, the highest first, in the order: pairs of columns from the right to the left, S - 1 and S - 2, and so on, column 6 left out (so that the last ones are 5 and 4, 3 and 2, 1 and 0); the first pair upwards, the next one downwards, and so on; in each row the right one first.");
         // Version 1: the right column of each pair, and the rows from and to which it goes.
         int[][] parts = {{20, 20, 9}, {18, 9, 20}, {16, 20, 9}, {14, 9, 20}, {12, 20, 7}, {12, 5, 0}, {10, 0, 5}, {10, 7, 20},
             {8, 12, 9}, {5, 9, 12}, {3, 12, 9}, {1, 9, 12}};
